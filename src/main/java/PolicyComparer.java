@@ -74,10 +74,13 @@ public final class PolicyComparer {
     // ---- edits
 
     public int addRule(int policy, int index, int effect) {
-        if (!isPolicy(policy) || index < 0 || index > policyNumbered(policy).size() || !isEffect(effect)) {
+        if (!isPolicy(policy) || !isEffect(effect)) {
             return INVALID_ARGUMENT;
         }
         Policy edited = policyNumbered(policy);
+        if (index < 0 || index > edited.size()) {
+            return INVALID_ARGUMENT;
+        }
         if (edited.size() >= MOST_RULES) {
             return LIMIT_REACHED;
         }
@@ -324,8 +327,10 @@ public final class PolicyComparer {
             ruleSets.add(examined.applying(request));
         }
         int kept = examined.allRules();
-        for (int round = 0; round < MOST_RULES; round++) {
-            kept &= ~lowestRedundant(examined, kept);
+        int redundant = lowestRedundant(examined, kept);
+        for (int round = 0; round < MOST_RULES && redundant != 0; round++) {
+            kept &= ~redundant;
+            redundant = lowestRedundant(examined, kept);
         }
         return kept;
     }
@@ -422,10 +427,11 @@ public final class PolicyComparer {
      * Bits at and above the number of rules are 0 in every row.
      */
     private static final class Policy {
+        private static final int SUBJECT_ROW = 0, ACTION_ROW = 8, RESOURCE_ROW = 12, LEVEL_ROW = 20;
         private static final int DENY_ROW = 24;
         private static final int ROWS = 25;
         private static final int SAVED_CELLS = ROWS + 2;
-        private static final int[] FIRST_ROW = {0, 8, 12, 20};
+        private static final int[] FIRST_ROW = {SUBJECT_ROW, ACTION_ROW, RESOURCE_ROW, LEVEL_ROW};
 
         private final int[] rows = new int[ROWS];
         private int count = 0;
@@ -525,10 +531,11 @@ public final class PolicyComparer {
         }
 
         int applying(int request) {
-            return rows[FIRST_ROW[0] + valueIn(request, 0)]
-                & rows[FIRST_ROW[1] + valueIn(request, 1)]
-                & rows[FIRST_ROW[2] + valueIn(request, 2)]
-                & rows[FIRST_ROW[3] + valueIn(request, 3)];
+            // Written out, as most calls come here a thousand times; the masks keep every index below DENY_ROW.
+            return rows[SUBJECT_ROW + ((request >> 7) & 7)]
+                & rows[ACTION_ROW + ((request >> 5) & 3)]
+                & rows[RESOURCE_ROW + ((request >> 2) & 7)]
+                & rows[LEVEL_ROW + (request & 3)];
         }
 
         int decisionOn(int request) {

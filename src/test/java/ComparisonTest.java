@@ -3,6 +3,8 @@ public final class ComparisonTest {
     private static final int MIN = Integer.MIN_VALUE;
     private static final int MAX = Integer.MAX_VALUE;
     private static final int[] NO_POLICY = {MIN, -1, 2, 3, MAX};
+    private static final String FIRST_REQUEST = "permit:s0:a0:r0:l0;";
+    private static final String LAST_REQUEST = "permit:s7:a3:r7:l3;";
 
     public static void main(String[] args) {
         Check.finish(counts(), gainCountOf(), nextGain(), nextLoss(), transitionCount(), grantedShareBits(),
@@ -50,6 +52,10 @@ public final class ComparisonTest {
                 check.due("gainCountOf(" + attribute + ", " + wrong + ")", x.gainCountOf(attribute, wrong), -1);
             }
         }
+        for (int attribute = 0; attribute < 4; attribute++) {
+            check.due("gainCountOf(" + attribute + ", 0) of request 0",
+                Check.loaded("new;" + FIRST_REQUEST).gainCountOf(attribute, 0), 1);
+        }
         for (int wrong : new int[] {MIN, -1, 4, MAX}) {
             check.due("gainCountOf(" + wrong + ", 0)", x.gainCountOf(wrong, 0), -1);
         }
@@ -66,6 +72,7 @@ public final class ComparisonTest {
         check.due("nextGain(927)", x.nextGain(927), 927);
         check.due("nextGain(928)", x.nextGain(928), -4);
         check.due("nextGain(1023)", x.nextGain(1023), -4);
+        check.due("nextGain(1) of request 0", Check.loaded("new;" + FIRST_REQUEST).nextGain(1), -4);
         check.due("nextGain(1023) of all", Check.loaded("new;permit;").nextGain(1023), 1023);
         for (int wrong : new int[] {MIN, -1, 1024, MAX}) {
             check.due("nextGain(" + wrong + ")", x.nextGain(wrong), -1);
@@ -80,6 +87,7 @@ public final class ComparisonTest {
         check.due("nextLoss(32)", x.nextLoss(32), 32);
         check.due("nextLoss(127)", x.nextLoss(127), 127);
         check.due("nextLoss(128)", x.nextLoss(128), -4);
+        check.due("nextLoss(1) of request 0", Check.loaded(FIRST_REQUEST).nextLoss(1), -4);
         check.due("nextLoss(1023) of all", Check.loaded("permit;").nextLoss(1023), 1023);
         for (int wrong : new int[] {MIN, -1, 1024, MAX}) {
             check.due("nextLoss(" + wrong + ")", x.nextLoss(wrong), -1);
@@ -160,7 +168,7 @@ public final class ComparisonTest {
         check.due("witness(1, 2)", x.witness(1, 2), 415);
         x.setAlgorithm(0, 3);
         check.due("witness(0, 0) where one alone decides", x.witness(0, 0), 514);
-        check.due("witness(0, 0) of the last request", Check.loaded("permit:s7:a3:r7:l3;").witness(0, 0), 1023);
+        check.due("witness(0, 0) of the last request", Check.loaded(LAST_REQUEST).witness(0, 0), 1023);
         noSuchRule(check, "witness", x, true);
         return check;
     }
@@ -170,6 +178,8 @@ public final class ComparisonTest {
         check.due("core of twins", Check.loaded("permit:s0;permit:s0;").irredundantCore(0), 2);
         check.due("core of four alike", Check.loaded("permit;permit;permit;permit;").irredundantCore(0), 8);
         check.due("core behind a deny of all", Check.loaded("deny;permit:s0;deny:a1;").irredundantCore(0), 1);
+        check.due("core of request 0", Check.loaded(FIRST_REQUEST).irredundantCore(0), 1);
+        check.due("core of request 1023", Check.loaded(LAST_REQUEST).irredundantCore(0), 1);
         check.due("core of none", Check.loaded("").irredundantCore(0), 0);
         PolicyComparer x = Check.loaded("new;permit:s01;deny:s01;permit:s0;usedenyover;");
         check.due("core where a deny overrides", x.irredundantCore(1), 2);
@@ -200,6 +210,8 @@ public final class ComparisonTest {
         check.due("where nothing gains", Check.loaded("permit;new;permit;").leastRemoval(), 0);
         check.due("where the new policy is empty", Check.loaded("permit;").leastRemoval(), 0);
         check.due("of the one rule", Check.loaded("new;permit;").leastRemoval(), 1);
+        check.due("of request 0", Check.loaded("new;" + FIRST_REQUEST).leastRemoval(), 1);
+        check.due("of request 1023", Check.loaded("new;" + LAST_REQUEST).leastRemoval(), 1);
         check.due("of all eight", Check.loaded("new;" + "permit;".repeat(8)).leastRemoval(), 255);
         check.due("of the higher one", Check.loaded("permit:s0;new;permit:s0;permit:s1;").leastRemoval(), 2);
         check.due("of one where its like stays", Check.loaded("new;deny:s0;permit:s1;").leastRemoval(), 2);
@@ -211,6 +223,19 @@ public final class ComparisonTest {
         String before = Check.state(x);
         check.due("of a new object", x.leastRemoval(), 5);
         check.sameText("the state after it", Check.state(x), before);
+        askedAgain(check);
         return check;
+    }
+
+    /** What one call looked at must not reach into the next. */
+    private static void askedAgain(Check check) {
+        PolicyComparer x = Check.loaded("new;permit:s0;permit:s1;");
+        check.due("leastRemoval() at first", x.leastRemoval(), 3);
+        x.clearText();
+        Check.type(x, "permit;new;permit;permit;");
+        x.load();
+        check.due("leastRemoval() after another text", x.leastRemoval(), 0);
+        check.due("irredundantCore(1) after it", x.irredundantCore(1), 2);
+        check.due("leastRemoval() once more", x.leastRemoval(), 0);
     }
 }

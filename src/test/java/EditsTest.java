@@ -224,8 +224,36 @@ public final class EditsTest {
         }
         check.due("undo() beyond the fourth", x.undo(), -3);
         check.sameText("the policies then", policies(x), states[3]);
+        eachUndone(check);
         mixedUndo(check);
         return check;
+    }
+
+    /** Each kind of edit alone can be undone, in the old policy and in the new one. */
+    private static void eachUndone(Check check) {
+        String before = Check.state(new PolicyComparer());
+        for (int policy = 0; policy < 2; policy++) {
+            for (int kind = 0; kind < 7; kind++) {
+                PolicyComparer x = new PolicyComparer();
+                check.holds("edit " + kind + " of policy " + policy, someEdit(x, kind, policy) >= 0);
+                check.due("historySize() after edit " + kind, x.historySize(), 1);
+                check.holds("edit " + kind + " changed something", !Check.state(x).equals(before));
+                check.due("undo() of edit " + kind, x.undo(), 0);
+                check.sameText("the state after undo of edit " + kind, Check.state(x), before);
+            }
+        }
+    }
+
+    private static int someEdit(PolicyComparer x, int kind, int policy) {
+        return switch (kind) {
+            case 0 -> x.addRule(policy, 1, 1);
+            case 1 -> x.removeRule(policy, 0);
+            case 2 -> x.moveRule(policy, 0, 1);
+            case 3 -> x.setAlgorithm(policy, 4);
+            case 4 -> x.setTarget(policy, 1, 1, 5);
+            case 5 -> x.flipEffect(policy, 1);
+            default -> x.copyOldToNew();
+        };
     }
 
     private static void mixedUndo(Check check) {

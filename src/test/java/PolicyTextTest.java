@@ -49,6 +49,7 @@ public final class PolicyTextTest {
         PolicyComparer x = Check.withText("bad");
         check.due("clearText()", x.clearText(), 3);
         check.due("clearText() again", x.clearText(), 0);
+        leftovers(check);
         check.due("syntaxError()", x.syntaxError(), -4);
         Check.type(x, "new;permit;");
         check.due("syntaxError() of the next text", x.syntaxError(), -4);
@@ -56,6 +57,18 @@ public final class PolicyTextTest {
         x.clearText();
         check.sameText("the policies after clearText", Check.state(x), before);
         return check;
+    }
+
+    /** What stood in the text before must not be read again behind a shorter one. */
+    private static void leftovers(Check check) {
+        PolicyComparer x = Check.withText("permit:s01;");
+        x.clearText();
+        for (char character : "permit:s01".toCharArray()) {
+            x.append(character);
+            check.due("syntaxError() before the semicolon", x.syntaxError(), 0);
+        }
+        x.append(';');
+        check.due("syntaxError() behind it", x.syntaxError(), -4);
     }
 
     private static void well(Check check, String text) {
@@ -110,6 +123,14 @@ public final class PolicyTextTest {
         malformed(check, "old;".repeat(59) + "old.", 236);
         malformed(check, "old;".repeat(59) + "perm", 236);
         malformed(check, ";".repeat(240), 0);
+        // The 240th character stands where the reader would look for one more.
+        for (String tail : new String[] {"permit", "permit:", "permit:s", "permit:s0", "permit:s0:", "use", "usefirs",
+            "usefirst", "new", "ne", "deny:l3", "deny:l3:"}) {
+            String rest = "new;".repeat((240 - tail.length()) / 4 - 5);
+            String odd = "deny;".repeat((240 - tail.length()) % 4);
+            int fill = (240 - tail.length() - rest.length() - odd.length()) / 4;
+            malformed(check, rest + odd + "old;".repeat(fill) + tail, 240 - tail.length());
+        }
         malformed(check, "new;" + "permit:s01234567:a0123:r01234567:l0123;".repeat(6) + "x;", 238);
     }
 
