@@ -237,5 +237,8 @@ public final class ComparisonTest {
         check.due("leastRemoval() after another text", x.leastRemoval(), 0);
         check.due("irredundantCore(1) after it", x.irredundantCore(1), 2);
         check.due("leastRemoval() once more", x.leastRemoval(), 0);
+        PolicyComparer y = Check.loaded("permit:s1;permit:s0;new;permit;permit;");
+        check.due("irredundantCore(0) of more sets", y.irredundantCore(0), 3);
+        check.due("irredundantCore(1) of fewer sets", y.irredundantCore(1), 2);
     }
 }
