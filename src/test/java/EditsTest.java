@@ -1,9 +1,5 @@
-/** Promises 6 to 13 and 32: the edits, undo and the history. */
+/** Promises 6 to 13 and 32, ordinary inputs: the edits, undo and the history. */
 public final class EditsTest {
-    private static final int MIN = Integer.MIN_VALUE;
-    private static final int MAX = Integer.MAX_VALUE;
-    private static final int[] NO_POLICY = {MIN, -1, 2, 3, MAX};
-
     public static void main(String[] args) {
         Check.finish(addRule(), removeRule(), moveRule(), setAlgorithm(), setTarget(), flipEffect(), copyOldToNew(),
             undo(), historySize(), untouched());
@@ -41,15 +37,6 @@ public final class EditsTest {
         check.due("addRule(1, -1, 1) at 8", x.addRule(1, -1, 1), -1);
         check.due("addRule(1, 0, 2) at 8", x.addRule(1, 0, 2), -1);
         check.due("addRule(0, 1, 0) on no rules", x.addRule(0, 1, 0), -1);
-        for (int wrong : NO_POLICY) {
-            check.due("addRule(" + wrong + ", 0, 0)", x.addRule(wrong, 0, 0), -1);
-        }
-        for (int wrong : new int[] {MIN, -1, 2, 3, MAX}) {
-            check.due("addRule(0, 0, " + wrong + ")", x.addRule(0, 0, wrong), -1);
-        }
-        for (int wrong : new int[] {MIN, -1, 1, MAX}) {
-            check.due("addRule(0, " + wrong + ", 0)", x.addRule(0, wrong, 0), -1);
-        }
         check.sameText("the state after errors", Check.state(x), before);
         check.due("addRule(0, 0, 0)", x.addRule(0, 0, 0), 1);
         check.sameText("the old policy", order(x, 0), "p255");
@@ -64,15 +51,7 @@ public final class EditsTest {
         check.due("removeRule(1, 3)", x.removeRule(1, 3), 3);
         check.due("removeRule(1, 0)", x.removeRule(1, 0), 2);
         check.sameText("from both ends", order(x, 1), "p4 d8");
-        String before = Check.state(x);
-        for (int wrong : NO_POLICY) {
-            check.due("removeRule(" + wrong + ", 0)", x.removeRule(wrong, 0), -1);
-        }
-        for (int wrong : new int[] {MIN, -1, 2, 8, MAX}) {
-            check.due("removeRule(1, " + wrong + ")", x.removeRule(1, wrong), -1);
-        }
-        check.due("removeRule(0, 0)", x.removeRule(0, 0), -1);
-        check.sameText("the state after errors", Check.state(x), before);
+        check.due("removeRule(0, 0) of no rules", x.removeRule(0, 0), -1);
         x.removeRule(1, 0);
         check.due("removeRule(1, 0), the last one", x.removeRule(1, 0), 0);
         check.due("decisionCount(1, 2) of no rules", x.decisionCount(1, 2), 1024);
@@ -99,14 +78,6 @@ public final class EditsTest {
         check.due("moveRule(1, 2, 2)", x.moveRule(1, 2, 2), -3);
         check.due("moveRule(1, 5, 5)", x.moveRule(1, 5, 5), -1);
         check.due("moveRule(0, 0, 0) on no rules", x.moveRule(0, 0, 0), -1);
-        for (int wrong : NO_POLICY) {
-            check.due("moveRule(" + wrong + ", 0, 1)", x.moveRule(wrong, 0, 1), -1);
-            check.due("moveRule(" + wrong + ", 0, 0)", x.moveRule(wrong, 0, 0), -1);
-        }
-        for (int wrong : new int[] {MIN, -1, 5, 8, MAX}) {
-            check.due("moveRule(1, " + wrong + ", 0)", x.moveRule(1, wrong, 0), -1);
-            check.due("moveRule(1, 0, " + wrong + ")", x.moveRule(1, 0, wrong), -1);
-        }
         check.sameText("the state after errors", Check.state(x), before);
         PolicyComparer full = Check.loaded("deny:s0;permit:s1;permit:s2;permit:s3;permit:s4;permit:s5;permit:s6;deny:s7;");
         check.due("moveRule(0, 7, 0) of 8", full.moveRule(0, 7, 0), 1);
@@ -126,14 +97,6 @@ public final class EditsTest {
         }
         check.due("algorithmOf(1)", x.algorithmOf(1), 0);
         check.due("setAlgorithm(1, 0)", x.setAlgorithm(1, 0), -3);
-        String state = Check.state(x);
-        for (int wrong : NO_POLICY) {
-            check.due("setAlgorithm(" + wrong + ", 0)", x.setAlgorithm(wrong, 0), -1);
-        }
-        for (int wrong : new int[] {MIN, -1, 5, MAX}) {
-            check.due("setAlgorithm(1, " + wrong + ")", x.setAlgorithm(1, wrong), -1);
-        }
-        check.sameText("the state after errors", Check.state(x), state);
         return check;
     }
 
@@ -148,23 +111,6 @@ public final class EditsTest {
         check.sameText("the state", Check.state(x),
             "0 use1 0:255:8:128:10 1:255:8:255:15;1 use0 0:7:15:15:15 1:255:8:255:3 0:1:15:255:15;4");
         check.due("setTarget(0, 0, 3, 10) again", x.setTarget(0, 0, 3, 10), -3);
-        String before = Check.state(x);
-        for (int attribute = 0; attribute < 4; attribute++) {
-            int beyond = attribute % 2 == 0 ? 256 : 16;
-            for (int wrong : new int[] {MIN, -1, 0, beyond, beyond + 1, 1 << 20, MAX}) {
-                check.due("setTarget(0, 0, " + attribute + ", " + wrong + ")", x.setTarget(0, 0, attribute, wrong), -1);
-            }
-        }
-        for (int wrong : new int[] {MIN, -1, 4, 5, MAX}) {
-            check.due("setTarget(0, 0, " + wrong + ", 1)", x.setTarget(0, 0, wrong, 1), -1);
-        }
-        for (int wrong : new int[] {MIN, -1, 2, 8, MAX}) {
-            check.due("setTarget(0, " + wrong + ", 0, 1)", x.setTarget(0, wrong, 0, 1), -1);
-        }
-        for (int wrong : NO_POLICY) {
-            check.due("setTarget(" + wrong + ", 0, 0, 1)", x.setTarget(wrong, 0, 0, 1), -1);
-        }
-        check.sameText("the state after errors", Check.state(x), before);
         return check;
     }
 
@@ -175,14 +121,6 @@ public final class EditsTest {
         check.due("flipEffect(1, 2)", x.flipEffect(1, 2), 1);
         check.sameText("the effects", order(x, 1), "p7 p255 d1");
         check.due("flipEffect(1, 1) again", x.flipEffect(1, 1), 1);
-        String before = Check.state(x);
-        for (int wrong : NO_POLICY) {
-            check.due("flipEffect(" + wrong + ", 0)", x.flipEffect(wrong, 0), -1);
-        }
-        for (int wrong : new int[] {MIN, -1, 3, 8, MAX}) {
-            check.due("flipEffect(1, " + wrong + ")", x.flipEffect(1, wrong), -1);
-        }
-        check.sameText("the state after errors", Check.state(x), before);
         return check;
     }
 
@@ -215,15 +153,15 @@ public final class EditsTest {
         Runnable[] edits = {() -> x.addRule(0, 1, 1), () -> x.moveRule(0, 0, 2), () -> x.setAlgorithm(1, 4),
             () -> x.setTarget(1, 2, 3, 6), () -> x.flipEffect(0, 0), () -> x.removeRule(1, 0), () -> x.copyOldToNew()};
         for (int i = 0; i < edits.length; i++) {
-            states[i] = policies(x);
+            states[i] = Check.policies(x);
             edits[i].run();
         }
         for (int left = 3; left >= 0; left--) {
             check.due("undo()", x.undo(), left);
-            check.sameText("the policies with " + left + " left", policies(x), states[3 + left]);
+            check.sameText("the policies with " + left + " left", Check.policies(x), states[3 + left]);
         }
         check.due("undo() beyond the fourth", x.undo(), -3);
-        check.sameText("the policies then", policies(x), states[3]);
+        check.sameText("the policies then", Check.policies(x), states[3]);
         eachUndone(check);
         mixedUndo(check);
         return check;
@@ -269,11 +207,6 @@ public final class EditsTest {
         x.flipEffect(0, 0);
         x.undo();
         check.due("the text is not undone", x.clearText(), 4);
-    }
-
-    private static String policies(PolicyComparer x) {
-        String state = Check.state(x);
-        return state.substring(0, state.lastIndexOf(';'));
     }
 
     private static Check historySize() {

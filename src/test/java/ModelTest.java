@@ -32,7 +32,7 @@ public final class ModelTest {
     private void go() {
         while (calls < CALLS) {
             int kind = random.nextInt(100);
-            if (kind < 4) {
+            if (kind < 4 && calls < CALLS - 4) {
                 text();
             } else if (kind < 50) {
                 edit();
@@ -67,7 +67,7 @@ public final class ModelTest {
             due("clearText()", x.clearText(), model.clearText());
         }
         String text = random.nextInt(3) == 0 ? spoilt(someText()) : someText();
-        for (int i = 0; i < text.length(); i++) {
+        for (int i = 0; i < text.length() && calls < CALLS - 3; i++) {
             due("append(" + (int) text.charAt(i) + ")", x.append(text.charAt(i)), model.append(text.charAt(i)));
         }
         int odd = random.nextInt(200) - 30;

@@ -38,6 +38,14 @@ final class PlainModel {
         text = "";
     }
 
+    static PlainModel withText(String text) {
+        PlainModel model = new PlainModel();
+        for (int i = 0; i < text.length(); i++) {
+            model.append(text.charAt(i));
+        }
+        return model;
+    }
+
     private static boolean has(int set, int value) {
         return (set & (1 << value)) != 0;
     }
