@@ -33,7 +33,8 @@ public final class DecisionEdgesTest {
 
     /** A rule for one request does not apply to any that differs from it in one attribute alone. */
     private static Check eachAttribute() {
-        Check check = new Check("A rule applies to a request if each attribute value of the request is in the set of that attribute");
+        Check check = new Check("A rule applies to a request if each attribute value of the request "
+            + "is in the set of that attribute");
         for (int request : new int[] {0, 1023, 341, 682, 96, 512}) {
             PolicyComparer x = Check.loaded(Check.ruleFor("deny", request));
             check.due("decide of the request", x.decide(0, request), 1);

@@ -40,14 +40,15 @@ public final class ErrorEdgesTest {
         return x;
     }
 
-    private static void refused(Check check, String call, Supplier<PolicyComparer> fresh, int due, ToIntFunction<PolicyComparer> asked) {
+    private static void refused(Check check, String call, Supplier<PolicyComparer> fresh, int due,
+        ToIntFunction<PolicyComparer> asked) {
         PolicyComparer x = fresh.get();
         check.due(call, asked.applyAsInt(x), due);
         check.due(call + " again", asked.applyAsInt(x), due);
         check.sameText("the object after " + call, Check.tale(x), Check.tale(fresh.get()));
     }
 
-    // ---- the order of errors
+    // ---- the order of errors: no call has both LIMIT_REACHED and NO_CHANGE, nor both NO_CHANGE and NOT_FOUND
 
     private static Check invalidBeforeLimit() {
         Check check = new Check("INVALID_ARGUMENT is returned rather than LIMIT_REACHED");

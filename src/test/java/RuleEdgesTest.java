@@ -5,8 +5,8 @@ public final class RuleEdgesTest {
 
     public static void main(String[] args) {
         Check.finish(redundantByRequest(), ruleAlone(), redundantByRemoval(), leastWitness(), noWitness(), coreOfNone(),
-            coreOfAll(), coreByRequest(), lowestFirst(), asItIsThen(), untilNone(), presentNumbers(), unchangedByCore(), noGain(), removedRule(),
-            fewerFirst(), leastMask(), allRules(), unchangedByRemoval(), everyShortPolicy(),
+            coreOfAll(), coreByRequest(), lowestFirst(), asItIsThen(), untilNone(), presentNumbers(), unchangedByCore(),
+            noGain(), removedRule(), fewerFirst(), leastMask(), allRules(), unchangedByRemoval(), everyShortPolicy(),
             everySetOfRules(), askedAgain());
     }
 
@@ -16,7 +16,8 @@ public final class RuleEdgesTest {
     private static Check redundantByRequest() {
         Check check = new Check("promise 28: without it, the policy would make the same decision for every request");
         for (int request = 0; request < 1024; request++) {
-            PolicyComparer x = Check.loaded(Check.ruleFor("permit", request) + "deny;new;deny;" + Check.ruleFor("permit", request));
+            String rule = Check.ruleFor("permit", request);
+            PolicyComparer x = Check.loaded(rule + "deny;new;deny;" + rule);
             check.due("isRedundant(0, 0) of request " + request, x.isRedundant(0, 0), 0);
             check.due("isRedundant(1, 1) of request " + request, x.isRedundant(1, 1), 1);
             x.flipEffect(0, 0);
@@ -57,7 +58,8 @@ public final class RuleEdgesTest {
                     for (int decision = 0; decision < 4; decision++) {
                         same += x.transitionCount(decision, decision);
                     }
-                    check.due("isRedundant(0, " + index + ") of " + rules + algorithm, x.isRedundant(0, index), same == 1024 ? 1 : 0);
+                    check.due("isRedundant(0, " + index + ") of " + rules + algorithm, x.isRedundant(0, index),
+                        same == 1024 ? 1 : 0);
                 }
             }
         }
@@ -69,7 +71,8 @@ public final class RuleEdgesTest {
     private static Check leastWitness() {
         Check check = new Check("promise 29: the least number of a request for which the policy would make another decision");
         for (int request = 0; request < 1024; request++) {
-            PolicyComparer x = Check.loaded(Check.ruleFor("permit", request) + "deny;new;" + Check.ruleFor("permit", request));
+            String rule = Check.ruleFor("permit", request);
+            PolicyComparer x = Check.loaded(rule + "deny;new;" + rule);
             check.due("witness(0, 0) of request " + request, x.witness(0, 0), request);
             check.due("witness(0, 1) of the rest", x.witness(0, 1), request == 0 ? 1 : 0);
             check.due("witness(1, 0) of request " + request, x.witness(1, 0), request);
@@ -226,7 +229,7 @@ public final class RuleEdgesTest {
         Check check = new Check("promise 31: whose removal leaves no request that gains (one request is enough)");
         for (int request = 0; request < 1024; request++) {
             removal(check, "new;deny:s0:a0:r0:l1;" + Check.ruleFor("permit", request), request == 1 ? 0 : 2);
-            removal(check, Check.ruleFor("permit", request) + "new;" + Check.ruleFor("permit", request), 0);
+            removal(check, "permit;new;" + Check.ruleFor("permit", request), 0);
         }
         removal(check, "new;permit:s0;deny;permit:s1;", 1);
         // Rule 1 alone gains, but without it rule 0 would.
@@ -256,6 +259,7 @@ public final class RuleEdgesTest {
         return check;
     }
 
+    /** At worst all rules go, as no rule grants nothing; so NOT_FOUND never comes about. */
     private static Check allRules() {
         Check check = new Check("promise 31: Returns the set as a bit mask of rule numbers (of 1 to 8 rules, all or one)");
         for (int count = 1; count <= 8; count++) {

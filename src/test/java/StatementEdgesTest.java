@@ -141,7 +141,8 @@ public final class StatementEdgesTest {
                 check.due(first + "deny;" + second, Check.loaded(first + "deny;" + second).algorithmOf(0), later);
                 PolicyComparer x = Check.loaded("new;" + first + "old;" + second);
                 check.due("new;" + first + "old;" + second, x.algorithmOf(1), earlier);
-                check.due(first + "new;" + second + "old;", Check.loaded(first + "new;" + second + "old;").algorithmOf(0), earlier);
+                PolicyComparer y = Check.loaded(first + "new;" + second + "old;");
+                check.due(first + "new;" + second + "old;", y.algorithmOf(0), earlier);
             }
         }
         return check;
