@@ -7,6 +7,8 @@ import java.nio.file.Files;
 import java.nio.file.Path;
 import java.util.Set;
 import java.util.TreeSet;
+import java.util.regex.Matcher;
+import java.util.regex.Pattern;
 
 /** The class's face is the document's and nothing more, and its source keeps to the words of LANGUAGE.md. */
 public final class FaceTest {
@@ -22,6 +24,8 @@ public final class FaceTest {
         "PERMIT_OVERRIDES", "ONLY_ONE", "MAJORITY");
     private static final String[] BARRED = {"throw", "try", "catch", "synchronized", "assert", "package", "Float",
         "Double", "Object", "Exception", "System.out", "->", "::", "Random", "Thread", "hashCode", "toString"};
+    private static final Set<String> LIBRARY = Set.of("Arrays.fill", "Integer.bitCount", "Integer.lowestOneBit",
+        "Integer.numberOfLeadingZeros", "System.arraycopy");
 
     public static void main(String[] args) throws IOException {
         Check.finish(face(), classesInside(), words());
@@ -94,7 +98,11 @@ public final class FaceTest {
         String code = source.replaceAll("(?s)/\\*.*?\\*/", "").replaceAll("//.*", "");
         for (String word : BARRED) {
             String edge = Character.isLetter(word.charAt(0)) ? "\\b" : "";
-            check.holds("no " + word, !code.matches("(?s).*" + edge + java.util.regex.Pattern.quote(word) + edge + ".*"));
+            check.holds("no " + word, !code.matches("(?s).*" + edge + Pattern.quote(word) + edge + ".*"));
+        }
+        Matcher used = Pattern.compile("\\b(Arrays|Integer|Long|Math|System|String|Character|Boolean)\\.\\w+").matcher(code);
+        while (used.find()) {
+            check.holds(used.group() + " is in the rules' library", LIBRARY.contains(used.group()));
         }
         check.holds("no import but Arrays", !code.replace("import java.util.Arrays;", "").contains("import "));
         check.holds("plain signs alone", source.chars().allMatch(sign -> sign == '\n' || sign >= 32 && sign < 127));
